@@ -4,7 +4,7 @@
  */
 public final class ModelTest {
     private static final int OBJECTS = 30000;
-    private static final int CALLS = 500;
+    private static final int CALLS = 490;
     private static final String[] NAMES = {
         "open", "num", "ref", "close", "drop", "define", "run", "type", "value", "error", "datum",
         "place", "beats", "output", "special", "cell"};
