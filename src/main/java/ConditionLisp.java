@@ -91,8 +91,8 @@ public final class ConditionLisp {
     private static final int CALLED = 6;
     private static final int HANDLING = 7;
 
-    // The cells of a frame. A PROTECT never signals, so the exit that waits for its clean-up
-    // lies in the cells that a signalling frame uses for its condition.
+    // The cells of a frame. The values of the first three parts lie from F_FIRST on. A PROTECT never
+    // signals, so the exit that waits for its clean-up lies where a signalling frame has its condition.
     private static final int F_NODE = 0;
     private static final int F_ENV = 1;
     private static final int F_PHASE = 2;
@@ -1075,6 +1075,5 @@ public final class ConditionLisp {
         exitType = frames[top + F_TYPE];
         exitPlace = frames[top + F_PLACE];
         leaveTo(frames[top + F_TARGET], frames[top + F_DATUM]);
-        popFrame();
     }
 }

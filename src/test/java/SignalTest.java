@@ -144,6 +144,9 @@ public final class SignalTest {
         printed(11, 1, 12, 2);
         value("(handle 1 0 (print 1) (catch 1 (handle 2 0 (throw 1 0) (error 2 1))) (signal 1 2))", 0);
         printed(1);
+        Forms.define(x, 3, 3, "(add v0 (add v1 v2))");
+        value("(handle 1 0 (print v0) (call 3 10 20 30) (signal 1 (call 3 1 2 3)))", 0);
+        printed(6);
         CHECKS.about("a CATCH and a RESTART inside the BODY stay usable for the clause");
         value("(handle 1 0 (throw 1 (add v0 1)) (add 10 (catch 1 (signal 1 5) 99)))", 16);
         value("(handle 1 0 (invoke 2 v0) (add 10 (restart 2 1 (mul v1 3) (error 2 5) 99)))", 25);
@@ -256,6 +259,9 @@ public final class SignalTest {
         printed(6, 7);
         unhandled("(protect (error 4 5) (print (case 2 0 v0 (error 3 6))) (protect (catch 1 (protect (throw 1 2) (print 8)))))", 4, 5, 1);
         printed(6, 8);
+        unhandled("(protect (error 4 5) (catch 1 (protect (error 3 6) (throw 1 2))))", 4, 5, 1);
+        unhandled("(seq 0 (protect (div 7 0) (print (catch 1 (protect (error 2 6) (throw 1 2))))))", 3, 7, 3);
+        printed(2);
         CHECKS.about("EXITS: fuel that ends in a clean-up ends the run");
         CHECKS.same("run()", Forms.run(x, "(protect (error 2 1) (while 1))"), ConditionLisp.FUEL);
         CHECKS.same("error()", x.error(), 0);
