@@ -1,10 +1,5 @@
 /** BUILDING: promises 2 to 7 and 9, and the order and limits of 18 that concern them. */
 public final class BuildingTest {
-    private static final int[] LEAST = {
-        2, 2, 2, 2, 2, 2, 3, 0, 1, 1, 1, 0, 1, 1, 2, 1, 1, 1, 1, 1, 1, 1, 1, 0, 1, 2, 0};
-    // -1: as many as the form has room for.
-    private static final int[] MOST = {
-        2, 2, 2, 2, 2, 2, 3, -1, 1, -1, -1, -1, 1, -1, 2, -1, -1, -1, -1, 1, 1, 1, 1, 3, 1, 2, 0};
     private static final Checks CHECKS = new Checks();
 
     private BuildingTest() {
@@ -31,24 +26,20 @@ public final class BuildingTest {
     private static ConditionLisp opened(int op) {
         ConditionLisp x = fresh();
         x.open(11, 1, 0);
-        CHECKS.yes("open(" + op + ")", x.open(op, goodA(op), 0));
+        CHECKS.yes("open(" + op + ")", x.open(op, Kinds.goodFirst(op), 0));
         return x;
-    }
-
-    private static int goodA(int op) {
-        return op == 9 || op == 26 ? 8 : 1;
     }
 
     private static void partsOfEachKind() {
         for (int op = 0; op <= 26; op++) {
             CHECKS.about("promise 2 to 5: parts of kind " + op);
             ConditionLisp x = opened(op);
-            for (int n = 0; n < LEAST[op]; n++) {
+            for (int n = 0; n < Kinds.LEAST[op]; n++) {
                 CHECKS.no("close() with " + n + " parts", x.close());
                 CHECKS.yes("num() as part " + n, n % 2 == 0 ? x.num(n) : x.ref(n % 12));
             }
-            int most = MOST[op] < 0 ? 54 : MOST[op];
-            for (int n = LEAST[op]; n < most; n++) {
+            int most = Kinds.MOST[op] == Kinds.ANY ? 54 : Kinds.MOST[op];
+            for (int n = Kinds.LEAST[op]; n < most; n++) {
                 CHECKS.yes("num() as part " + n, n % 2 == 0 ? x.num(n) : x.ref(n % 12));
             }
             CHECKS.no("num() beyond", x.num(7));
@@ -66,7 +57,7 @@ public final class BuildingTest {
         for (int i = 0; i < tried.length; i++) {
             ConditionLisp x = fresh();
             CHECKS.same("open(" + op + ", " + tried[i] + ", " + b + ")", x.open(op, tried[i], b) ? 1 : 0, i < 2 ? 1 : 0);
-            CHECKS.same("num(1) after it", x.num(1) ? 1 : 0, i < 2 && MOST[op] == 0 ? 0 : 1);
+            CHECKS.same("num(1) after it", x.num(1) ? 1 : 0, i < 2 && Kinds.MOST[op] == 0 ? 0 : 1);
             if (i >= 2) {
                 CHECKS.same("run() of the number alone", x.run(), ConditionLisp.OK);
             }
@@ -105,7 +96,7 @@ public final class BuildingTest {
         }
         int[] oneOperand = {8, 9, 11, 19, 20, 21, 23, 24, 25, 26};
         for (int op : oneOperand) {
-            CHECKS.yes("open(" + op + ", good, -99)", fresh().open(op, goodA(op), -99));
+            CHECKS.yes("open(" + op + ", good, -99)", fresh().open(op, Kinds.goodFirst(op), -99));
         }
         CHECKS.about("promise 2: kinds that are none");
         for (int op : new int[] {-1, 27, 28, 29, 100, Integer.MIN_VALUE, Integer.MAX_VALUE}) {

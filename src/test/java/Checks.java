@@ -25,6 +25,15 @@ final class Checks {
         same(call, got ? 1 : 0, 0);
     }
 
+    void alike(String what, String got, String due) {
+        if (got.equals(due)) {
+            right++;
+        } else {
+            wrong++;
+            System.out.println(about + ": " + what + " is " + got + ", due is " + due);
+        }
+    }
+
     void end(String name) {
         System.out.println(name + ": " + right + " answers as due, " + wrong + " not");
         if (wrong != 0 || right == 0) {

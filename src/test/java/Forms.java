@@ -18,14 +18,18 @@ final class Forms {
     private Forms() {
     }
 
-    static void build(ConditionLisp x, String text) {
+    /** Answers how many calls it took. */
+    static int build(ConditionLisp x, String text) {
+        int calls = 0;
         ArrayDeque<String> words = new ArrayDeque<>(
             Arrays.asList(text.replace("(", " ( ").replace(")", " ) ").trim().split("\\s+")));
         while (!words.isEmpty()) {
             if (!addWord(x, words)) {
                 throw new IllegalStateException("refused in " + text + ", before " + words);
             }
+            calls++;
         }
+        return calls;
     }
 
     static int run(ConditionLisp x, String text) {
