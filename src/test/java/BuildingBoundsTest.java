@@ -62,6 +62,19 @@ public final class BuildingBoundsTest {
         }
     }
 
+    /** A call that is refused wherever it comes: in the empty form, and in lists that take one part more, or many. */
+    private static void refusedAnywhere(String text, Twins.Call call) {
+        Twins.unchanged(CHECKS, text + " as the root", x -> { }, call, 0);
+        for (int op : new int[] {0, 6, 7, 8, 14, 23}) {
+            Twins.unchanged(CHECKS, text + " in kind " + op, x -> {
+                x.open(op, 1, 0);
+                for (int part = 1; part < Kinds.LEAST[op]; part++) {
+                    x.num(part);
+                }
+            }, call, 0);
+        }
+    }
+
     private static void ends(ConditionLisp x, int value) {
         CHECKS.same("run()", x.run(), ConditionLisp.OK);
         CHECKS.same("value()", x.value(), value);
@@ -318,7 +331,7 @@ public final class BuildingBoundsTest {
             CHECKS.no("open(" + op + ", 1, 1)", fresh().open(op, 1, 1));
         }
         for (int op : new int[] {-1, 27, 28, 29, MIN, MAX}) {
-            Twins.unchanged(CHECKS, "open(" + op + ", 1, 1)", x -> x.open(7, 0, 0), x -> Twins.bit(x.open(op, 1, 1)), 0);
+            refusedAnywhere("open(" + op + ", 1, 1)", x -> Twins.bit(x.open(op, 1, 1)));
         }
     }
 
@@ -341,8 +354,7 @@ public final class BuildingBoundsTest {
             for (int a = -1; a <= 13; a++) {
                 int tried = a;
                 if (!Kinds.takesFirst(op, a, 1)) {
-                    Twins.unchanged(CHECKS, "open(" + op + ", " + a + ", 0)", x -> x.open(7, 0, 0),
-                        x -> Twins.bit(x.open(kind, tried, 0)), 0);
+                    refusedAnywhere("open(" + op + ", " + a + ", 0)", x -> Twins.bit(x.open(kind, tried, 0)));
                 }
             }
         }
@@ -385,8 +397,7 @@ public final class BuildingBoundsTest {
                 CHECKS.no("open(" + op + ", 77, " + b + ")", fresh().open(op, 77, b));
             }
             for (int b : new int[] {-1, 12, MIN, MAX}) {
-                Twins.unchanged(CHECKS, "open(" + op + ", 1, " + b + ")", x -> x.open(7, 0, 0),
-                    x -> Twins.bit(x.open(kind, 1, b)), 0);
+                refusedAnywhere("open(" + op + ", 1, " + b + ")", x -> Twins.bit(x.open(kind, 1, b)));
             }
         }
     }
@@ -425,6 +436,7 @@ public final class BuildingBoundsTest {
             CHECKS.no("RETURN 3 in kind " + op + " 3", y.open(12, 3, 0));
         }
         Twins.unchanged(CHECKS, "open(12, 2, 0)", y -> y.open(11, 3, 0), y -> Twins.bit(y.open(12, 2, 0)), 0);
+        refusedAnywhere("open(12, 2, 0)", y -> Twins.bit(y.open(12, 2, 0)));
     }
 
     private static void closeRefusedWhenNoListIsOpen() {
@@ -523,8 +535,7 @@ public final class BuildingBoundsTest {
         }
         for (int v : new int[] {-1, 12, 256, 267, 65536, MIN, MIN + 1, MAX}) {
             CHECKS.no("ref(" + v + ")", fresh().ref(v));
-            Twins.unchanged(CHECKS, "ref(" + v + ") as the root", x -> { }, x -> Twins.bit(x.ref(v)), 0);
-            Twins.unchanged(CHECKS, "ref(" + v + ") in a list", x -> x.open(7, 0, 0), x -> Twins.bit(x.ref(v)), 0);
+            refusedAnywhere("ref(" + v + ")", x -> Twins.bit(x.ref(v)));
         }
         for (int v = 0; v <= 11; v++) {
             ConditionLisp x = fresh();

@@ -28,6 +28,7 @@ public final class PromiseBoundsTest {
         runEmptiesTheForm();
         answersBeforeAnyRun();
         answersOfTheLatestRun();
+        otherCallsLeaveTheAnswers();
         typesUpTo15();
         typeOfNoParent();
         typeRefusedChangesNothing();
@@ -200,6 +201,13 @@ public final class PromiseBoundsTest {
             define(x, 3, 56);
             build(x, 30);
         }, x -> x.define(4, 0), FULL);
+        Twins.unchanged(CHECKS, "define() to 201 nodes instead of 200", x -> {
+            define(x, 0, 56);
+            define(x, 1, 56);
+            define(x, 3, 56);
+            define(x, 4, 29);
+            build(x, 30);
+        }, x -> x.define(4, 1), FULL);
     }
 
     private static void defineCountsTheOthersAlone() {
@@ -326,6 +334,38 @@ public final class PromiseBoundsTest {
             B.printed();
             B.output(0, 0);
             B.beats(0);
+        }
+    }
+
+    private static void otherCallsLeaveTheAnswers() {
+        CHECKS.about("promise 8: the answers speak of the latest run(), whatever else is called");
+        String[] forms = {"(seq (print 3) (while 0) 9)", "(seq (print 3) (while 0) (error 2 8))", "(seq (print 3) (while 1))"};
+        int[][] due = {{9, 0, 0, -1, 1}, {0, 2, 8, 5, 1}, {0, 0, 0, -1, 4}};
+        for (int i = 0; i < 3; i++) {
+            ConditionLisp x = new ConditionLisp(5, 4);
+            CHECKS.same(forms[i] + ": run()", Forms.run(x, forms[i]), i);
+            for (int later = 0; later < 7; later++) {
+                CHECKS.same("value() " + later, x.value(), due[i][0]);
+                CHECKS.same("error() " + later, x.error(), due[i][1]);
+                CHECKS.same("datum() " + later, x.datum(), due[i][2]);
+                CHECKS.same("place() " + later, x.place(), due[i][3]);
+                CHECKS.same("beats() " + later, x.beats(), due[i][4]);
+                CHECKS.same("output(-1) " + later, x.output(-1), 1);
+                CHECKS.same("output(0) " + later, x.output(0), 3);
+                callOther(x, later);
+            }
+        }
+    }
+
+    private static void callOther(ConditionLisp x, int which) {
+        switch (which) {
+            case 0: CHECKS.yes("open()", x.open(22, 0, 0)); break;
+            case 1: CHECKS.yes("num()", x.num(77)); break;
+            case 2: CHECKS.yes("close()", x.close()); break;
+            case 3: CHECKS.same("define(0, 0)", x.define(0, 0), OK); break;
+            case 4: CHECKS.same("type(2)", x.type(2), 10); break;
+            case 5: CHECKS.yes("ref()", x.ref(9)); break;
+            default: x.drop(); break;
         }
     }
 
@@ -568,6 +608,18 @@ public final class PromiseBoundsTest {
                 }
                 B.value("v" + v, 0);
                 B.value("(add 1 v" + v + ")", 1);
+                CHECKS.about("promise 18: the local variables of a run() are all 0, also after one that ended in a call");
+                B.define(1, 0, form);
+                B.define(0, 0, "(call 1)");
+                if (i == 0) {
+                    B.value("(call 0)", 1);
+                } else if (i == 1) {
+                    B.unhandled("(call 0)", 2, 1, 203);
+                } else {
+                    B.outOfFuel("(call 0)");
+                }
+                B.value("v" + v, 0);
+                B.value("(add v" + v + " (set " + v + " 4))", 4);
             }
         }
     }
@@ -580,6 +632,12 @@ public final class PromiseBoundsTest {
         B.define(1, 0, "(block 1 (call 0) 7)");
         B.value("(block 1 (add 1 (call 1)))", 8);
         B.value("(add 1 (block 1 (add 10 (block 2 (add 20 (block 1 (return 1 5)))))))", 36);
+        CHECKS.about("promise 18: RETURN, when the same BLOCK has been deeper before");
+        String deeper = "(call 0)";
+        for (int i = 0; i < 6; i++) {
+            B.value("(add " + deeper + " (call 0))", 30);
+            deeper = "(seq " + deeper + ")";
+        }
     }
 
     private static void returnKeepsToItsCall() {

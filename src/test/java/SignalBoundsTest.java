@@ -44,6 +44,9 @@ public final class SignalBoundsTest {
         unhandledEndsTheRun();
         allBindingsEndWithTheRun();
         globalsAndArraysKeepWhatWasDone();
+        deepestBindings();
+        deepestCleanUps();
+        deepestClauses();
         CHECKS.end("SignalBoundsTest");
     }
 
@@ -484,6 +487,55 @@ public final class SignalBoundsTest {
             B.special(11, Bench.NONE);
             B.value("(add v8 (add (bound 10) (bound 11)))", 1);
         }
+    }
+
+    // ---- as deep as 12 open lists and 5 calls let a run go ----
+
+    /** So many times the text, each inside the one before, where its % stands. */
+    private static String nested(int times, String text, String innermost) {
+        String form = innermost;
+        for (int i = 0; i < times; i++) {
+            form = text.replace("%", form);
+        }
+        return form;
+    }
+
+    private static void deepestBindings() {
+        B.fresh("12 lists open and 5 calls in progress: bindings, with a function that calls itself until error depth");
+        B.define(0, 0, nested(11, "(bind 8 (add v8 1) %)", "(call 0)"));
+        B.unhandled("(seq (set 8 0) (handle 7 0 (print v8) (call 0)))", 7, 5, 144);
+        B.printed(55);
+        B.special(8, 0);
+        B.value("(catch 1 (handle 7 0 (throw 1 v8) (call 0)))", 55);
+        B.value("(case 7 0 (add v0 v8) (call 0))", 5);
+        B.special(8, 0);
+    }
+
+    private static void deepestCleanUps() {
+        B.fresh("12 lists open and 5 calls in progress: clean-ups");
+        B.define(0, 0, nested(11, "(protect % (inca 3 0 1))", "(call 0)"));
+        B.unhandled(nested(11, "(protect % (inca 3 1 1))", "(call 0)"), 7, 5, 111);
+        B.cell(3, 0, 55);
+        B.cell(3, 1, 11);
+        B.value("(catch 1 (handle 7 0 (throw 1 v0) (call 0)))", 5);
+        B.cell(3, 0, 110);
+    }
+
+    /** Each clause is evaluated in the middle of the one before it, up to the outermost, which throws. */
+    private static void deepestClauses() {
+        B.fresh("12 lists open and 5 calls in progress: clauses in the middle of clauses");
+        String inner = nested(8, "(handle 1 0 (signal 1 v0) %)", "(call 0)");
+        String form = "(handle 1 0 " + nested(10, "(seq %)", "(signal 1 v0)")
+            + " (handle 1 0 " + nested(9, "(seq %)", "(signal 1 v0)")
+            + " (handle 1 0 " + nested(3, "(seq %)", "(signal 1 v0)") + " " + inner + ")))";
+        B.define(0, 0, form);
+        String run = "(catch 1 (handle 1 0 (throw 1 (add v0 1)) " + nested(9, "(handle 1 0 (signal 1 v0) %)", "(call 0)") + "))";
+        B.value(run, 6);
+        B.beats(5 + 5 * 11 + 10);
+        B.value(run, 6);
+        B.outOfFuel("(handle 1 0 7 (call 0))");
+        B.beats(200);
+        B.value("(signal 1 5)", 0);
     }
 
     private static void globalsAndArraysKeepWhatWasDone() {

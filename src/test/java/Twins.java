@@ -65,7 +65,7 @@ final class Twins {
     private static String goneOn(ConditionLisp x) {
         StringBuilder answers = new StringBuilder();
         answers.append(x.open(21, 2, 0) ? 'e' : '-');
-        for (int i = 0; i < 60; i++) {
+        for (int i = 0; i < 30; i++) {
             answers.append(x.close() ? 'c' : x.num(i) ? 'n' : '-');
         }
         answers.append(' ').append(x.run()).append(' ').append(x.value()).append(' ').append(x.place());

@@ -351,6 +351,8 @@ public final class ValueBoundsTest {
         B.value("(catch 0 (throw 0 0))", 0);
         B.value("(add 1 (catch 4 (catch (throw 4 5) 1)))", 6);
         B.unhandled("(catch (throw 4 5) 1)", 5, 4, 1);
+        B.unhandled("(catch (throw 0 5) 1)", 5, 0, 1);
+        B.unhandled("(seq (catch 4 1) (catch (throw 4 5) 1))", 5, 4, 5);
         B.unhandled("(seq (catch 4 1) (throw 4 5))", 5, 4, 4);
         B.value("(catch 4 (catch 4 1) (throw 4 5) 6)", 5);
     }
@@ -378,6 +380,16 @@ public final class ValueBoundsTest {
         B.value("(restart 2 0 (add v0 100) (restart 2 0 (invoke 2 (add v0 1)) (invoke 2 5)))", 106);
         B.unhandled("(restart 2 0 (invoke 2 6) (invoke 2 5))", 5, 6, 1);
         B.unhandled("(seq (restart 2 0 9 1) (invoke 2 5))", 5, 5, 4);
+        CHECKS.about("19 INVOKE: a RESTART that was deeper before is no longer in progress");
+        B.renew();
+        B.define(0, 0, "(restart 2 0 9 1)");
+        String deeper = "(add (add (add (add (call 0) (call 0)) (call 0)) (call 0)) ";
+        B.value(deeper + "(restart 2 0 (add v0 10) (invoke 2 5)))", 19);
+        B.unhandled(deeper + "(invoke 2 5))", 5, 5, 8);
+        CHECKS.about("14 THROW: a CATCH that was deeper before is no longer in progress");
+        B.define(0, 0, "(catch 2 1)");
+        B.value(deeper + "(catch 2 (throw 2 5)))", 9);
+        B.unhandled(deeper + "(throw 2 5))", 5, 2, 8);
     }
 
     private static void invokeWithoutARestart() {
