@@ -17,6 +17,7 @@ public final class ValueBoundsTest {
         noSpecialValueAtTheStart();
         bindingsHideTheGlobalValue();
         typesAndTheirParents();
+        partsAreEvaluatedInOrder();
         valuesWrapAround();
         comparisonsAre1Or0();
         divisionGoesTowardsZero();
@@ -141,6 +142,28 @@ public final class ValueBoundsTest {
     }
 
     // ---- VALUES ----
+
+    private static void partsAreEvaluatedInOrder() {
+        B.fresh("VALUES: parts are evaluated in order");
+        String[] heads = {"(add", "(sub", "(mul", "(div", "(less", "(same", "(inca 1"};
+        int[] values = {7, 3, 10, 2, 0, 0, 0};
+        for (int i = 0; i < heads.length; i++) {
+            B.value(heads[i] + " (print 5) (print 2))", values[i]);
+            B.printed(5, 2);
+            B.unhandled(heads[i] + " (error 2 (print 5)) (print 2))", 2, 5, 1);
+            B.printed(5);
+        }
+        B.renew();
+        B.define(0, 3, "(add v0 (mul 10 (add v1 (mul 10 v2))))");
+        B.value("(call 0 (print 5) (print 2) (print 3))", 325);
+        B.printed(5, 2, 3);
+        B.value("(catch 5 (throw (print 5) (print 2)))", 2);
+        B.printed(5, 2);
+        B.value("(bind 8 (print 5) (print 2) (print 3))", 3);
+        B.printed(5, 2, 3);
+        B.value("(catch (print 5) (print 2) (print 3))", 3);
+        B.printed(5, 2, 3);
+    }
 
     private static void valuesWrapAround() {
         B.fresh("VALUES are ints that wrap around");
