@@ -224,6 +224,15 @@ public final class SignalBoundsTest {
         B.value("(seq (signal 1 1) (handle 1 0 (print v0) (signal 1 2)) (signal 1 3))", 0);
         B.printed(2);
         B.unhandled("(seq (case 1 0 (print v0) 1) (error 2 3))", 2, 3, 5);
+        CHECKS.about("HANDLE, CASE: a CALL with three parts, whatever they are, leaves in force what was");
+        B.define(0, 3, "v2");
+        for (int third : new int[] {0, 1, 2, -1, 30}) {
+            B.value("(handle 1 0 (print v0) (call 0 7 8 " + third + ") (signal 1 6))", 0);
+            B.printed(6);
+            B.unhandled("(seq (call 0 7 8 " + third + ") (error 2 6))", 2, 6, 5);
+        }
+        B.renew();
+        CHECKS.about("HANDLE, CASE: the clause is not in force after a BODY that is left");
         B.value("(seq (block 0 (handle 1 0 (print 1) (return 0 1))) (signal 1 3))", 0);
         B.printed();
         B.value("(seq (catch 1 (handle 1 0 (throw 1 0) (signal 1 1))) (handle 1 0 (print 2) (signal 1 4)) (signal 1 3))", 0);
