@@ -14,6 +14,7 @@ public final class SignalBoundsTest {
         innermostClauseFirst();
         handleUsesABeatFirst();
         clauseInTheMiddle();
+        callsAroundAClauseAreInProgress();
         localVariableIsThatOfTheHandle();
         specialVariableIsBound();
         clauseHasTheLocalsOfItsCall();
@@ -96,6 +97,29 @@ public final class SignalBoundsTest {
         B.printed(1, 2, 3, 4);
         B.define(0, 0, "(add 70 (signal 1 5))");
         B.value("(handle 1 0 (print 2) (bind 8 6 (set 1 (call 0)) (add v1 v8)))", 76);
+    }
+
+    /** Function 0 signals inside of so many more calls; function 1 calls itself so many times more. */
+    private static void callsAroundAClauseAreInProgress() {
+        B.fresh("HANDLE: nothing being left, the calls around the clause count for the depth; CALL: as many calls are in progress");
+        for (int depth = 1; depth <= 5; depth++) {
+            for (int around = 1; around <= depth; around++) {
+                B.renew(depth, 200);
+                B.define(0, 1, "(if v0 (call 0 (sub v0 1)) (signal 1 8))");
+                B.define(1, 1, "(if v0 (call 1 (sub v0 1)) 70)");
+                String clause = "(handle 1 0 (print (call 1 %)) (call 0 " + (around - 1) + "))";
+                int free = depth - around;
+                if (free > 0) {
+                    B.value(clause.replace("%", "" + (free - 1)), 0);
+                    B.printed(70);
+                    B.beats(depth + 1);
+                }
+                B.unhandled(clause.replace("%", "" + free), 7, depth, free > 0 ? 202 : 2);
+                B.printed();
+                B.beats(depth + 1);
+                B.value("(add (handle 1 0 0 (call 0 " + (around - 1) + ")) (call 1 " + (depth - 1) + "))", 70);
+            }
+        }
     }
 
     private static void localVariableIsThatOfTheHandle() {

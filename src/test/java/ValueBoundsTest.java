@@ -163,6 +163,15 @@ public final class ValueBoundsTest {
         B.printed(5, 2, 3);
         B.value("(catch (print 5) (print 2) (print 3))", 3);
         B.printed(5, 2, 3);
+        CHECKS.about("VALUES: parts are evaluated in order, all of them before the test that the list makes");
+        B.unhandled("(inca 1 16 (print 2))", 6, 16, 0);
+        B.printed(2);
+        B.unhandled("(inca 1 16 (div 7 0))", 3, 7, 2);
+        B.value("(catch 1 (inca 1 -1 (throw 1 5)))", 5);
+        B.unhandled("(throw 9 (print 2))", 5, 9, 0);
+        B.printed(2);
+        B.unhandled("(throw 9 (div 7 0))", 3, 7, 2);
+        B.value("(catch 1 (throw 9 (throw 1 5)))", 5);
     }
 
     private static void valuesWrapAround() {
